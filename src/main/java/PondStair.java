@@ -49,7 +49,6 @@ public final class PondStair {
     private static final int WORK_LOW = 1;
     private static final int WORK_WIDEN = 2;
     private static final int WORK_ROUND = 3;
-    private static final int WORK_OUT = 4;
 
     private final Told told = new Told();
     private final Told[] images = new Told[IMAGES];
@@ -59,7 +58,7 @@ public final class PondStair {
     private final Works nothing = new Works();
     private final Storm flow = new Storm();
     private final Odds odds = new Odds();
-    private final Choice choice = new Choice();
+    private final Choice choice = new Choice(odds);
     private final Hill trial = new Hill();
 
     public PondStair() {
@@ -150,26 +149,23 @@ public final class PondStair {
     }
 
     public long likely(int hill, int plan, int pond) {
-        if (!lays(hill, plan) || pond != NONE && !site.ground.has(pond)) {
+        if (!looks(hill, plan) || pond != NONE && !site.ground.has(pond)) {
             return NONE;
         }
-        odds.look(site.ground, NONE);
         return odds.partsOf(bit(pond));
     }
 
     public long mean(int hill, int plan, int owner) {
-        if (!lays(hill, plan) || owner != NONE && !isOwner(owner)) {
+        if (!looks(hill, plan) || owner != NONE && !isOwner(owner)) {
             return NONE;
         }
-        odds.look(site.ground, NONE);
         return odds.meanOf(owner == NONE ? site.ground.all() : site.ground.ownedBy(owner));
     }
 
     public long rows(int hill, int plan, boolean parts) {
-        if (!lays(hill, plan)) {
+        if (!looks(hill, plan)) {
             return NONE;
         }
-        odds.look(site.ground, NONE);
         int set = odds.likeliest();
         return parts ? odds.together[set] : set;
     }
@@ -197,10 +193,9 @@ public final class PondStair {
     }
 
     public long mended(int hill, int plan, int ponds) {
-        if (!lays(hill, plan) || !site.ground.hasSet(ponds)) {
+        if (!looks(hill, plan) || !site.ground.hasSet(ponds)) {
             return NONE;
         }
-        odds.look(site.ground, NONE);
         odds.weigh(ponds, 0);
         return odds.meanOf(site.ground.all());
     }
@@ -218,22 +213,20 @@ public final class PondStair {
     }
 
     public long helps(int hill, int plan, int owner, int other) {
-        if (!lays(hill, plan) || !isOwner(owner) || !isOwner(other)) {
+        if (!looks(hill, plan) || !isOwner(owner) || !isOwner(other)) {
             return NONE;
         }
         int harmed = site.ground.ownedBy(other);
-        odds.look(site.ground, NONE);
         long before = odds.meanOf(harmed);
         odds.weigh(site.ground.ownedBy(owner), 0);
         return before - odds.meanOf(harmed);
     }
 
     public long alone(int hill, int plan, int owner) {
-        if (!lays(hill, plan) || !isOwner(owner)) {
+        if (!looks(hill, plan) || !isOwner(owner)) {
             return NONE;
         }
         int his = site.ground.ownedBy(owner);
-        odds.look(site.ground, NONE);
         odds.weigh(site.ground.all() & ~his, 0);
         return odds.meanOf(his);
     }
@@ -252,15 +245,20 @@ public final class PondStair {
         if (!canFill(hill, plan, ponds)) {
             return NONE;
         }
-        choice.fillInMay(site.ground, ponds);
-        return first ? choice.downwards() : choice.least;
+        choice.lookAtFilled(site.ground, ponds);
+        if (first) {
+            return choice.downwards();
+        }
+        choice.findOrder();
+        return choice.least;
     }
 
     public int order(int hill, int plan, int ponds, int k) {
         if (!canFill(hill, plan, ponds) || k < 0 || k >= Integer.bitCount(ponds)) {
             return NONE;
         }
-        choice.fillInMay(site.ground, ponds);
+        choice.lookAtFilled(site.ground, ponds);
+        choice.findOrder();
         return choice.filledAt(k);
     }
 
@@ -302,11 +300,7 @@ public final class PondStair {
     }
 
     public int deep(int hill, int plan) {
-        if (!lays(hill, plan)) {
-            return NONE;
-        }
-        odds.look(site.ground, NONE);
-        return odds.mostThatWent();
+        return looks(hill, plan) ? odds.mostThatWent() : NONE;
     }
 
     public int safe(int hill, int plan) {
@@ -347,18 +341,16 @@ public final class PondStair {
     }
 
     public long joint(int hill, int plan, int one, int other) {
-        if (!hasPond(hill, plan, one) || !site.ground.has(other)) {
+        if (!looks(hill, plan) || !site.ground.has(one) || !site.ground.has(other)) {
             return NONE;
         }
-        odds.look(site.ground, NONE);
         return odds.partsOf(bit(one) | bit(other));
     }
 
     public long given(int hill, int plan, int one, int other, boolean under) {
-        if (!hasPond(hill, plan, one) || !site.ground.has(other)) {
+        if (!looks(hill, plan) || !site.ground.has(one) || !site.ground.has(other)) {
             return NONE;
         }
-        odds.look(site.ground, NONE);
         long first = odds.partsOf(bit(one));
         if (first == 0) {
             return NONE;
@@ -367,19 +359,11 @@ public final class PondStair {
     }
 
     public long worst(int hill, int plan, int what) {
-        if (!lays(hill, plan)) {
-            return NONE;
-        }
-        odds.look(site.ground, NONE);
-        return odds.worstTold(what);
+        return looks(hill, plan) ? odds.worstTold(what) : NONE;
     }
 
     public int flood(int hill, int plan) {
-        if (!lays(hill, plan)) {
-            return NONE;
-        }
-        odds.look(site.ground, NONE);
-        return odds.mostInBrook();
+        return looks(hill, plan) ? odds.mostInBrook() : NONE;
     }
 
     public int around(int hill, int plan, boolean second) {
@@ -451,6 +435,15 @@ public final class PondStair {
             return false;
         }
         site.lay(told.hill[hill], plan == NONE ? nothing : told.works[plan]);
+        return true;
+    }
+
+    /** Lays it and runs all STORMS there that can have PARTS. */
+    private boolean looks(int hill, int plan) {
+        if (!lays(hill, plan)) {
+            return false;
+        }
+        odds.look(site.ground, NONE, site.ground.weak());
         return true;
     }
 
@@ -647,17 +640,16 @@ public final class PondStair {
         }
 
         int of(int pond, int column) {
-            return isCell(pond, column) ? row[pond * COLUMNS + column] : 0;
+            if (pond < 0 || pond >= PONDS || column < 0 || column >= COLUMNS) {
+                return 0;
+            }
+            return row[pond * COLUMNS + column];
         }
 
         void put(int pond, int column, int value) {
-            if (isCell(pond, column)) {
+            if (pond >= 0 && pond < PONDS && column >= 0 && column < COLUMNS) {
                 row[pond * COLUMNS + column] = value;
             }
-        }
-
-        private boolean isCell(int pond, int column) {
-            return pond >= 0 && pond < PONDS && column >= 0 && column < COLUMNS;
         }
 
         boolean isOut(int pond) {
@@ -672,11 +664,11 @@ public final class PondStair {
         }
 
         int stepsOf(int rain) {
-            return hasRain(rain) ? rainSteps[rain] : 0;
+            return rain >= 0 && rain < rains ? rainSteps[rain] : 0;
         }
 
         int chanceOf(int rain) {
-            return hasRain(rain) ? rainChance[rain] : 0;
+            return rain >= 0 && rain < rains ? rainChance[rain] : 0;
         }
 
         int chancesTogether() {
@@ -851,9 +843,11 @@ public final class PondStair {
                 case WORK_LOW: return lowers(pond, much);
                 case WORK_WIDEN: return widens(pond, much);
                 case WORK_ROUND: return leads(pond, much);
-                case WORK_OUT: return fills(pond);
-                default: return false;
+                default: break;
             }
+            lost += ground.of(pond, RICE) * ground.of(pond, LEVEL);
+            ground.takeOut(pond);
+            return true;
         }
 
         private boolean mends(int pond, int much) {
@@ -889,12 +883,6 @@ public final class PondStair {
             }
             ground.put(pond, DOWN, to);
             days += ground.days[2];
-            return true;
-        }
-
-        private boolean fills(int pond) {
-            lost += ground.of(pond, RICE) * ground.of(pond, LEVEL);
-            ground.takeOut(pond);
             return true;
         }
     }
@@ -937,7 +925,8 @@ public final class PondStair {
                 return false;
             }
             for (int p = 0; p < pond; p++) {
-                if (isIn(went, p) && isIn(hill.nextOf(p), pond) && hill.of(p, WAY) >= gate) {
+                boolean leadsHere = hill.of(p, DOWN) == pond || hill.of(p, ASIDE) == pond;
+                if (leadsHere && isIn(went, p) && hill.of(p, WAY) >= gate) {
                     return true;
                 }
             }
@@ -945,7 +934,7 @@ public final class PondStair {
         }
 
         private boolean goes(Hill hill, int pond, int banks) {
-            if (hill.isOut(pond)) {
+            if (hill.of(pond, OUT) == 1) {
                 return false;
             }
             return isIn(banks, pond) || water[pond] - hill.of(pond, HOLDS) > hill.of(pond, BEARS);
@@ -955,7 +944,7 @@ public final class PondStair {
             if (keeps) {
                 return 0;
             }
-            if (isIn(went, pond) || hill.isOut(pond)) {
+            if (isIn(went, pond) || hill.of(pond, OUT) == 1) {
                 return water[pond];
             }
             return Math.max(0, water[pond] - hill.of(pond, HOLDS));
@@ -1019,12 +1008,8 @@ public final class PondStair {
         private final long[] weight = new long[SETS];
         private final long[] together = new long[SETS];
 
-        /** Only banks that CAN go: no others have PARTS while no CHANCE is made greater. */
-        void look(Hill ground, int keeper) {
-            lookAt(ground, keeper, ground.weak());
-        }
-
-        void lookAt(Hill ground, int keeper, int mayGo) {
+        /** Banks that can't go have no PARTS and need no STORM: mayGo has all others. */
+        void look(Hill ground, int keeper, int mayGo) {
             hill.copy(ground);
             for (int set = 0; set <= hill.all() && set < SETS; set++) {
                 harm[set] = hill.harmOf(set);
@@ -1066,7 +1051,7 @@ public final class PondStair {
         }
 
         long wholeMean(Hill ground, int keeper) {
-            look(ground, keeper);
+            look(ground, keeper, ground.weak());
             return meanOf(hill.all());
         }
 
@@ -1165,7 +1150,7 @@ public final class PondStair {
 
     /** What is best to do on a HILL. */
     private static final class Choice {
-        private final Odds odds = new Odds();
+        private final Odds odds;
         private final Hill trial = new Hill();
         private int first = NONE;
         private int second = NONE;
@@ -1177,13 +1162,17 @@ public final class PondStair {
         /** MEAN by which of the PONDS to fill (bits by their place in toFill) are full. */
         private final long[] filledMean = new long[1 << MOST_FILLED];
 
+        Choice(Odds odds) {
+            this.odds = odds;
+        }
+
         private long meanMended(int set) {
             odds.weigh(set, 0);
             return odds.meanOf(odds.hill.all());
         }
 
         int bestSet(Hill hill, int ponds, int days) {
-            odds.look(hill, NONE);
+            odds.look(hill, NONE, hill.weak());
             int best = 0;
             least = meanMended(0);
             for (int set = 1; set <= ponds; set++) {
@@ -1200,7 +1189,7 @@ public final class PondStair {
         }
 
         int fewestDays(Hill hill, int ponds, int m) {
-            odds.look(hill, NONE);
+            odds.look(hill, NONE, hill.weak());
             long limit = meanMended(0) * m;
             int fewest = NONE;
             for (int set = 0; set <= ponds; set++) {
@@ -1213,7 +1202,7 @@ public final class PondStair {
         }
 
         int stepByStep(Hill hill, int ponds, int days) {
-            odds.look(hill, NONE);
+            odds.look(hill, NONE, hill.weak());
             int mended = 0;
             int left = days;
             for (int step = 0; step < MOST_MENDED; step++) {
@@ -1272,7 +1261,7 @@ public final class PondStair {
             trial.copy(hill);
             for (int by = 0; by <= level; by++) {
                 trial.put(pond, LEVEL, level - by);
-                odds.look(trial, NONE);
+                odds.look(trial, NONE, trial.weak());
                 long loss = odds.meanOf(hill.all()) + odds.partsOf(0) * hill.of(pond, RICE) * by;
                 if (by == 0 || loss < least) {
                     best = by;
@@ -1299,7 +1288,7 @@ public final class PondStair {
         }
 
         int heaviest(Hill hill) {
-            odds.lookAt(hill, NONE, hill.all());
+            odds.look(hill, NONE, hill.all());
             long now = odds.meanOf(hill.all());
             long most = 0;
             int heaviest = NONE;
@@ -1325,25 +1314,20 @@ public final class PondStair {
                 for (int to = pond + 1; to < hill.ponds; to++) {
                     if (!hill.isOut(pond) && to != hill.of(pond, DOWN)) {
                         trial.put(pond, DOWN, to);
-                        tryAround(pond, to);
+                        long mean = odds.wholeMean(trial, NONE);
+                        if (mean < least) {
+                            first = pond;
+                            second = to;
+                            least = mean;
+                        }
                     }
                 }
                 trial.put(pond, DOWN, hill.of(pond, DOWN));
             }
         }
 
-        private void tryAround(int pond, int to) {
-            long mean = odds.wholeMean(trial, NONE);
-            if (mean < least) {
-                first = pond;
-                second = to;
-                least = mean;
-            }
-        }
-
-        /** Finds ORDER and its MAY. */
-        void fillInMay(Hill hill, int ponds) {
-            meanByFilled(hill, ponds);
+        /** Finds ORDER and its MAY, behind lookAtFilled(). */
+        void findOrder() {
             boolean found = false;
             int codes = 1 << 2 * filling;
             for (int code = 0; code < codes; code++) {
@@ -1358,7 +1342,7 @@ public final class PondStair {
             }
         }
 
-        private void meanByFilled(Hill hill, int ponds) {
+        void lookAtFilled(Hill hill, int ponds) {
             filling = 0;
             for (int pond = 0; pond < hill.ponds; pond++) {
                 if (isIn(ponds, pond) && filling < MOST_FILLED) {
@@ -1400,7 +1384,7 @@ public final class PondStair {
             return sum;
         }
 
-        /** MAY of FIRST, behind fillInMay(). */
+        /** MAY of FIRST, behind lookAtFilled(). */
         long downwards() {
             for (int k = 0; k < filling; k++) {
                 tried[k] = filling - 1 - k;
