@@ -1235,12 +1235,9 @@ public final class PondStair {
             return chosen;
         }
 
-        /** By days as fractions; what costs none is ahead of all that costs, and then the greater fall. */
+        /** By days as fractions; with a MEND of 0 no POND costs any, and the fall alone decides. */
         private static boolean isBetterBuy(long less, long price, long fall, long cost) {
-            if (price == 0 || cost == 0) {
-                return price == 0 && (cost > 0 || less > fall);
-            }
-            return less * cost > fall * price;
+            return less * Math.max(cost, 1) > fall * Math.max(price, 1);
         }
 
         void holdAll(Hill hill) {

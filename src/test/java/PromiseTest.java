@@ -187,6 +187,9 @@ public final class PromiseTest {
         fails(0, "pond 1 1 1 1;", 1, 11);
         fails(0, "pon 1 1 1;", 1, 0);
         fails(0, "ponds 1 1 1;", 1, 0);
+        fails(0, "pondz 1 1 1;", 1, 0);
+        fails(0, "xond 1 1 1;", 1, 0);
+        fails(0, "a", 1, 0);
         fails(0, " Pond 1 1 1;", 1, 1);
         fails(0, "pond 1 1 1;;", 1, 11);
         fails(0, "pond 1 1 1;7", 1, 11);
@@ -233,6 +236,7 @@ public final class PromiseTest {
             fails(0, "pond 1 1 1;" + word + " 1 0;", 2, 12 + word.length());
             fails(0, word + " 0 0;pond 1 1 1;", 2, 1 + word.length());
         }
+        fails(0, "pond 1 1 1;sign 1 0 0;", 2, 16);
         fails(0, "pond 1 1 1;sign 0 11 0;", 2, 18);
         fails(0, "pond 1 1 1;sign 0 0 11;", 2, 20);
         fails(0, "pond 1 1 1;sign 0 10 10;", 0, NONE);
@@ -552,6 +556,7 @@ public final class PromiseTest {
         // Without days all that lessens is mended; what lessens nothing is not.
         x = with("mend 0;pond 1 0 0;pond 1 0 0;goes 0 2;goes 1 4;harm 1 2;");
         due("steps: for nothing", x.steps(0, NONE, 3, 0), 2);
+        due("steps: all for nothing", with("mend 0;pond 1 0 0;pond 1 0 0;goes 0 2;goes 1 4;harm 0 1;harm 1 2;").steps(0, NONE, 3, 0), 3);
         due("best: for nothing", x.best(0, NONE, 3, 0), 2);
         // A bank that goes by itself lets the GATE below hear: to mend it makes MEAN greater.
         x = with("pond 5 5 0;pond 5 5 0;down 0 1;gate 1 0;goes 0 5;goes 1 5;harm 1 9;rain 0 100;");
@@ -630,6 +635,7 @@ public final class PromiseTest {
         // By 1 lower it never goes in 9 STEPS: 10 of HARM against RICE.
         String hill = "pond 9 9 1;harm 0 10;rain 1 100;rice 0 ";
         due("LOW for less RICE", with(hill + "9;").low(0, NONE, 0), 1);
+        due("LOW by all", with("pond 1 1 1;harm 0 10;rain 1 100;rice 0 1;").low(0, NONE, 0), 1);
         due("LOW for as much", with(hill + "10;").low(0, NONE, 0), 0);
         due("LOW for more", with(hill + "11;").low(0, NONE, 0), 0);
     }
@@ -818,6 +824,7 @@ public final class PromiseTest {
         due("WEIGHS, hill 1", x.weighs(1, NONE), NONE);
         due("WEIGHS, plan 2", x.weighs(0, 2), NONE);
         due("WEIGHS: none adds", with("pond 1 0 0;goes 0 3;").weighs(0, NONE), NONE);
+        due("WEIGHS: none adds, though there is HARM", with("pond 1 0 0;goes 0 10;harm 0 5;").weighs(0, NONE), NONE);
         due("WEIGHS: not one of 10", with("pond 1 0 0;pond 1 0 0;goes 0 10;harm 0 9;harm 1 1;").weighs(0, NONE), 1);
         due("WEIGHS: of several the least", with("pond 1 0 0;pond 1 0 0;harm 0 9;harm 1 9;").weighs(0, NONE), 0);
         PondStair y = with("pond 1 0 0;pond 1 0 0;harm 0 9;harm 1 1;");
@@ -900,6 +907,9 @@ public final class PromiseTest {
         due("FLOOD", x.flood(0, NONE), 18);
         due("FLOOD by a PLAN", x.flood(0, 0), 11);
         due("FLOOD with PARTS", y.flood(0, NONE), 7);
+        due("FLOOD without any bank", with("pond 0 0 4;rain 2 100;bears 0 9;").flood(0, NONE), 8);
+        due("FLOOD with all banks", with("pond 9 4 0;pond 9 7 0;goes 0 1;goes 1 1;").flood(0, NONE), 11);
+        due("FLOOD by the first RAIN", with("pond 9 0 3;rain 3 1;rain 0 99;goes 0 1;").flood(0, NONE), 9);
         due("FLOOD without PONDS", z.flood(0, NONE), 0);
         due("FLOOD, hill 1", x.flood(1, NONE), NONE);
         due("FLOOD, plan 2", x.flood(0, 2), NONE);
@@ -918,6 +928,9 @@ public final class PromiseTest {
         PondStair y = with("pond 5 5 0;pond 0 0 0;pond 24 0 0;pond 24 0 0;down 0 1;goes 0 5;harm 1 9;");
         due("AROUND: of several the least", y.around(0, NONE, false), 0);
         due("AROUND: then the least second", y.around(0, NONE, true), 2);
+        PondStair next = with("pond 5 5 0;pond 24 0 0;pond 0 0 0;down 0 2;goes 0 5;harm 2 9;");
+        due("AROUND: to the next one", next.around(0, NONE, false), 0);
+        due("AROUND: to the next one, second", next.around(0, NONE, true), 1);
         // What is OUT is not led around, though it would help.
         PondStair z = with("pond 5 5 9;pond 4 4 0;pond 24 0 0;down 0 1;harm 1 9;rain 1 100;");
         Tape.plan(z, "out 0;");
