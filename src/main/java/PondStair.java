@@ -88,14 +88,16 @@ public final class PondStair {
     }
 
     public int text(int sort, int at) {
+        int length = told.length;
+        // The tape is taken also where no text is read.
+        told.length = 0;
         told.fault = 0;
         told.place = NONE;
         int number = told.numberFor(sort, at);
         if (number == NONE) {
             return NO_SUCH;
         }
-        reader.read(told.tape, told.length, sort);
-        told.length = 0;
+        reader.read(told.tape, length, sort);
         told.fault = reader.fault;
         told.place = reader.place;
         if (reader.fault != 0) {

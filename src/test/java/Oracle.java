@@ -245,6 +245,8 @@ final class Oracle {
     int text(int sort, int at) {
         fault = 0;
         place = NONE;
+        String text = tape.toString();
+        tape.setLength(0);
         if (sort != 0 && sort != 1) {
             return -2;
         }
@@ -252,8 +254,6 @@ final class Oracle {
         if (at == NONE ? there == 2 + sort : at < 0 || at >= there) {
             return -2;
         }
-        String text = tape.toString();
-        tape.setLength(0);
         Hill hill = new Hill();
         List<int[]> works = new ArrayList<>();
         int[] f = lineFault(text, sort == 1, hill, works);

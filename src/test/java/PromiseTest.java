@@ -122,15 +122,18 @@ public final class PromiseTest {
         PondStair x = new PondStair();
         due("empty hill", Tape.hill(x, ""), 0);
         due("second hill", Tape.hill(x, "pond 1 1 1;"), 1);
+        int[][] refused = {{0, NONE}, {2, NONE}, {2, 0}, {-1, NONE}, {0, 2}, {0, -2}, {1, 0}};
+        for (int[] to : refused) {
+            Tape.put(x, "pond 2 2 2;;");
+            due("sort " + to[0] + " at " + to[1], x.text(to[0], to[1]), -2);
+            due("the tape is taken then", x.end(1), NONE);
+            due("FAULT 0 then", x.fault(0), 0);
+            due("place NONE then", x.fault(1), NONE);
+        }
+        due("the next bytes are the first", x.feed(0, 0, 0, 0, 0), 20);
+        due("no HILL more", x.count(0), 2);
+        due("no PLAN", x.count(1), 0);
         Tape.put(x, "pond 2 2 2;");
-        due("third hill", x.text(0, NONE), -2);
-        due("the tape stays, unread", x.end(11), 11);
-        due("sort 2", x.text(2, NONE), -2);
-        due("sort -1", x.text(-1, NONE), -2);
-        due("at 2", x.text(0, 2), -2);
-        due("at -2", x.text(0, -2), -2);
-        due("plan at 0", x.text(1, 0), -2);
-        due("FAULT 0 then", x.fault(0), 0);
         due("in the place of 0", x.text(0, 0), 0);
         due("it is there", x.pond(0, NONE, 0, 2), 2);
         due("the other one stays", x.pond(1, NONE, 0, 2), 1);
@@ -140,6 +143,7 @@ public final class PromiseTest {
             due("plan " + k, Tape.plan(x, "out " + k + ";"), k);
         }
         due("fourth plan", Tape.plan(x, "out 5;"), -2);
+        Tape.put(x, "out 5;");
         due("in the place of plan 1", x.text(1, 1), 1);
         due("its WORK", x.work(1, 0, 1), 5);
         Tape.put(x, "pond 25 0 0;");
