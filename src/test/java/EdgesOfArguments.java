@@ -9,7 +9,7 @@ import java.util.function.IntPredicate;
  * refused, what is not, and that a call changes nothing told, whether it is refused or not.
  */
 final class EdgesOfArguments extends Edges {
-    /** So few calls a object that building it, asking and looking at it stay under 512. */
+    /** So few calls an object that building it, asking and looking at it stay under 512. */
     private static final int CALLS = 60;
     private static final int[] PROBES = probes();
 
@@ -37,6 +37,7 @@ final class EdgesOfArguments extends Edges {
         on(1, 3, 1);
         withoutHills();
         withoutPonds();
+        oneBehindAnother();
     }
 
     private static int[] probes() {
@@ -315,5 +316,46 @@ final class EdgesOfArguments extends Edges {
                 due("alone", x.alone(0, plan, owner), 0);
             }
         }
+    }
+
+    /** What is told of a HILL has nothing of another one that was taken or asked ahead of it. */
+    private void oneBehindAnother() {
+        sentence("Promise 4", "The tape is taken (and is empty then), as a HILL (sort 0), a PLAN (1), a further one (at NONE), or in the place of"
+            + " one: its number.");
+        String rich = "pond 2 2 9;".repeat(9) + "goes 1 9;goes 2 9;harm 1 99;harm 2 99;harm 3 9;sign 1 9 1;sign 2 9 1;down 0 1;down 1 2;aside 2 3 5;"
+            + "rain 0 10;rain 9 30;rain 9 30;rain 9 30;gate 2 0;rice 1 9;owner 1 1;way 1 9;mend 7;";
+        String[] bare = {"", "pond 5 3 1;", "pond 5 3 1;goes 0 3;harm 0 2;sign 0 1 1;", "pond 5 3 1;pond 6 6 0;down 0 1;goes 0 3;harm 1 4;rain 1 100;"};
+        for (String hillText : bare) {
+            for (int v = 0; v < 4; v++) {
+                PondStair x = with(rich);
+                due("taking <" + hillText + ">", Tape.hill(x, hillText), 1);
+                PondStair y = with(hillText);
+                for (Method method : PondStair.class.getDeclaredMethods()) {
+                    if (method.getParameterCount() >= 2 && method.getParameterTypes()[0] == int.class
+                            && !List.of("feed", "text", "work", "better").contains(method.getName())) {
+                        compare(x, y, method, v);
+                    }
+                }
+            }
+        }
+    }
+
+    private void compare(PondStair x, PondStair y, Method method, int v) {
+        if (!java.lang.reflect.Modifier.isPublic(method.getModifiers())) {
+            return;
+        }
+        Object[] values = new Object[method.getParameterCount()];
+        for (int i = 0; i < values.length; i++) {
+            boolean flag = method.getParameterTypes()[i] == boolean.class;
+            values[i] = flag ? (Object) (v % 2 == 0) : i == 1 && values.length > 2 ? (Object) NONE : (Object) v;
+        }
+        if (values.length == 2 && !method.getName().equals("hill")) {
+            values[1] = NONE;
+        }
+        values[0] = 0;
+        answer(x, method.getName(), values);
+        long alone = answer(y, method.getName(), values);
+        values[0] = 1;
+        due(method.getName() + Arrays.toString(values), answer(x, method.getName(), values), alone);
     }
 }

@@ -126,6 +126,11 @@ final class EdgesOfChoices extends Edges {
         // 0 alone would bring 2 down; with 1 mended first, it lessens nothing more.
         PondStair order = with("pond 9 9 0;pond 9 9 0;pond 9 9 0;down 0 1;down 1 2;goes 0 5;goes 1 5;harm 2 4;mend 0;");
         due("for 0 days, most first, then the rest", order.steps(0, NONE, 7, 0), 3);
+        // 2 goes if both 0 and 1 do: with 1 mended, by which most falls, 0 lessens nothing more.
+        PondStair most = with("pond 9 5 0;pond 9 5 0;pond 9 0 0;down 0 2;down 1 2;goes 0 5;goes 1 5;harm 1 1;harm 2 4;mend 0;");
+        due("for 0 days, most first", most.steps(0, NONE, 7, 0), 2);
+        PondStair least = with("pond 9 5 0;pond 9 5 0;pond 9 0 0;down 0 2;down 1 2;goes 0 5;goes 1 5;harm 2 4;mend 0;");
+        due("for 0 days, of several the least", least.steps(0, NONE, 7, 0), 1);
     }
 
     private void stepsThatLessen() {
@@ -135,6 +140,7 @@ final class EdgesOfChoices extends Edges {
         due("what the RAIN does all the same", with("pond 0 0 1;goes 0 5;harm 0 9;rain 1 100;").steps(0, NONE, 1, 99), 0);
         due("what would make it greater", with("pond 9 0 0;pond 9 9 1;down 0 1;gate 1 0;goes 0 5;harm 1 9;rain 1 100;").steps(0, NONE, 1, 99), 0);
         due("no more than is there", with("pond 0 0 1;goes 0 5;harm 0 9;rain 1 99;rain 0 1;").steps(0, NONE, 1, 99), 1);
+        due("by the least that can be", with("pond 0 0 1;goes 0 1;harm 0 1;rain 1 99;rain 0 1;").steps(0, NONE, 1, 99), 1);
     }
 
     private void mended() {
@@ -500,6 +506,7 @@ final class EdgesOfChoices extends Edges {
         due("the last of nine", with("pond 1 0 0;".repeat(9) + "harm 8 1;").weighs(0, NONE), 8);
         sentence("Promise 31", "WEIGHS.");
         due("the first", with("pond 1 0 0;harm 0 1;").weighs(0, NONE), 0);
+        due("by the least that can be", with("pond 0 0 1;goes 0 1;harm 0 1;rain 1 99;rain 0 1;").weighs(0, NONE), 0);
         sentence("Promise 31", "NONE: none adds, or there is none such (of either).");
         due("no HARM", with("pond 1 0 0;").weighs(0, NONE), NONE);
         due("10 of 10", with("pond 1 0 0;goes 0 10;harm 0 1;").weighs(0, NONE), NONE);
@@ -534,6 +541,11 @@ final class EdgesOfChoices extends Edges {
         aroundIs(with(""), NONE, NONE, NONE);
         aroundIs(with(hill), 0, NONE, NONE);
         due("no HILL", with(hill).around(1, NONE, false), NONE);
+        PondStair later = with(hill);
+        Tape.hill(later, "pond 9 9 0;goes 0 5;harm 0 9;");
+        due("one that there is", later.around(0, NONE, false), 0);
+        due("then none", later.around(1, NONE, false), NONE);
+        due("then none, second", later.around(1, NONE, true), NONE);
     }
 
     private void aroundIs(PondStair x, int plan, int first, int second) {
@@ -558,7 +570,10 @@ final class EdgesOfChoices extends Edges {
             due(w[0] + ", " + w[1], x.better(0, w[0], w[1]), w[2]);
         }
         sentence("Promise 40", "BETTER: 0 the first one, 1 the second one, 2 both alike.");
-        due("by 1 part of 100000000000", with("pond 1 0 1;".repeat(9) + "goes 0 9;goes 1 9;harm 8 1;", "widen 8 1;").better(0, 0, NONE), 2);
+        PondStair close = with("pond 0 0 1;goes 0 1;harm 0 1;rain 1 99;rain 0 1;", "mend 0 1;", "widen 0 1;widen 0 1;low 0 1;");
+        due("lesser by the least that can be", close.better(0, 0, NONE), 0);
+        due("greater by the least that can be", close.better(0, NONE, 0), 1);
+        due("much lesser", close.better(0, 0, 1), 1);
         due("the first one", x.better(0, 1, 0), 0);
         due("the second one", x.better(0, 0, 1), 1);
         due("alike without PONDS", with("").better(0, NONE, NONE), 2);

@@ -147,8 +147,10 @@ final class EdgesOfPlans extends Edges {
     private void days() {
         sentence("Terms 2", "DAYS: mend: MEND for each of 10; widen: WIDE for each step; round: ROUND.");
         String[] plans = {"", "mend 0 1;", "mend 0 4;", "widen 0 1;", "widen 0 4;", "round 0 2;", "round 0 1;", "low 0 1;", "out 0;",
-            "mend 0 4;widen 0 4;round 0 1;low 0 5;out 0;", "mend 0 5;", "mend 0 4;mend 0 1;"};
-        int[] want = {0, 3, 12, 5, 20, 11, 11, 0, 0, 43, 0, 12};
+            "mend 0 4;widen 0 4;round 0 1;low 0 5;out 0;", "mend 0 5;", "mend 0 4;mend 0 1;",
+            "mend 0 1;mend 0 3;", "widen 0 1;mend 0 1;", "widen 0 1;widen 0 2;", "mend 0 1;widen 0 1;", "round 0 1;round 0 2;",
+            "round 0 1;mend 0 1;widen 0 1;round 0 2;"};
+        int[] want = {0, 3, 12, 5, 20, 11, 11, 0, 0, 43, 0, 12, 12, 8, 15, 8, 22, 30};
         for (int k = 0; k < plans.length; k++) {
             due("DAYS of " + plans[k], with(HILL, plans[k]).plan(0, 0, 1), want[k]);
         }
@@ -162,12 +164,16 @@ final class EdgesOfPlans extends Edges {
     private void lost() {
         sentence("Terms 2", "LOST: low: RICE for each step; out: RICE for each step of its LEVEL then.");
         String[] plans = {"", "low 0 1;", "low 0 5;", "out 0;", "low 0 2;out 0;", "low 0 5;out 0;", "out 0;low 0 1;", "low 0 6;",
-            "low 1 5;out 2;", "mend 0 1;widen 0 1;round 0 2;"};
-        int[] want = {0, 7, 35, 35, 35, 35, 35, 0, 0, 0};
+            "low 1 5;out 2;", "mend 0 1;widen 0 1;round 0 2;", "low 0 1;low 0 1;low 0 2;"};
+        int[] want = {0, 7, 35, 35, 35, 35, 35, 0, 0, 0, 28};
         for (int k = 0; k < plans.length; k++) {
             due("LOST by " + plans[k], with(HILL, plans[k]).plan(0, 0, 2), want[k]);
         }
         due("the most", with("pond 24 24 0;rice 0 99;", "out 0;").plan(0, 0, 2), 2376);
+        String two = "pond 9 5 0;pond 9 4 0;rice 0 7;rice 1 3;";
+        due("of two, low behind out", with(two, "out 1;low 0 1;").plan(0, 0, 2), 19);
+        due("of two, out behind low", with(two, "low 0 1;out 1;").plan(0, 0, 2), 19);
+        due("of two, both out", with(two, "out 0;out 1;").plan(0, 0, 2), 47);
     }
 
     private void withoutWorks() {

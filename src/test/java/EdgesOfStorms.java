@@ -88,6 +88,11 @@ final class EdgesOfStorms extends Edges {
         PondStair led = with("pond 9 2 0;pond 9 2 0;pond 9 2 0;down 0 1;gate 1 0;gate 2 0;", "round 0 2;");
         due("led round: the old one", led.storm(0, 0, 0, 1, 31), 0);
         due("led round: the new one", led.storm(0, 0, 0, 1, 32), 1);
+        PondStair both = with("pond 9 2 0;pond 9 2 0;pond 9 2 0;pond 9 2 0;down 0 1;aside 0 2 5;gate 1 0;gate 2 0;gate 3 0;");
+        int[] heard = {0, 1, 1, 0};
+        for (int pond = 0; pond < 4; pond++) {
+            due("two hear one: POND " + pond, both.storm(0, NONE, 0, 1, 30 + pond), heard[pond]);
+        }
     }
 
     private void goes() {
@@ -141,6 +146,9 @@ final class EdgesOfStorms extends Edges {
             PondStair one = with("pond 24 19 0;pond 24 0 0;down 0 1;aside 0 1 " + share[k] + ";");
             due("both to one POND", one.storm(0, NONE, 0, 1, 11), 19);
         }
+        PondStair three = with("pond 9 5 0;pond 9 6 0;pond 9 7 0;pond 24 1 0;aside 0 3 10;aside 1 3 5;down 2 3;");
+        due("by ASIDE of two, by DOWN of one, and its own", three.storm(0, NONE, 0, 7, 13), 16);
+        due("by ASIDE alone", three.storm(0, NONE, 0, 3, 13), 9);
         due("1 of 10 of 9, cut", with("pond 9 9 0;pond 24 0 0;aside 0 1 1;").storm(0, NONE, 0, 1, 11), 0);
         due("1 of 10 of 10", with("pond 10 10 0;pond 24 0 0;aside 0 1 1;").storm(0, NONE, 0, 1, 11), 1);
         PondStair spill = with("pond 5 5 1;pond 9 0 0;pond 9 0 0;bears 0 9;down 0 1;aside 0 2 5;rain 5 100;");
@@ -199,8 +207,25 @@ final class EdgesOfStorms extends Edges {
         PondStair x = with("pond 1 0 1;pond 1 0 0;goes 0 3;goes 1 7;rain 0 99;rain 2 1;");
         due("RAINS by their CHANCES", x.likely(0, NONE, 0), 99 * 30 + 100);
         due("PONDS by theirs", x.joint(0, NONE, 0, 1), 99 * 21 + 70);
+        onePart();
         due("a RAIN of 0 has none", with("pond 1 0 1;rain 0 100;rain 9 0;").likely(0, NONE, 0), 0);
         due("a RAIN of 100 has all", with("pond 1 0 1;rain 0 0;rain 9 100;").likely(0, NONE, 0), 1000);
+    }
+
+    /** A STORM of one PART alone counts, of all STORMS that have PARTS the least. */
+    private void onePart() {
+        String hill = "pond 0 0 1;goes 0 1;harm 0 7;rain 0 1;rain 1 99;";
+        due("LIKELY with one PART", with(hill).likely(0, NONE, 0), 991);
+        due("MEAN with one PART", with(hill).mean(0, NONE, NONE), 6937);
+        due("ROWS with one PART", with(hill).rows(0, NONE, true), 991);
+        due("JOINT with one PART", with(hill).joint(0, NONE, 0, 0), 991);
+        PondStair rare = with("pond 3 3 0;goes 0 1;harm 0 7;rain 0 1;rain 0 99;");
+        due("WORST of one PART: its RAIN", rare.worst(0, NONE, 0), 0);
+        due("WORST of one PART", rare.worst(0, NONE, 3), 1);
+        PondStair flood = with("pond 3 3 1;bears 0 9;goes 0 1;rain 9 1;rain 0 99;");
+        due("FLOOD of one PART", flood.flood(0, NONE), 12);
+        due("MEAN mended by one PART", with(hill).mended(0, NONE, 1), 6930);
+        due("GIVEN by one PART", with("pond 3 3 0;goes 0 1;rain 0 1;rain 0 99;").given(0, NONE, 0, 0, true), 1);
     }
 
     private void likelyAndMean() {
@@ -260,6 +285,7 @@ final class EdgesOfStorms extends Edges {
         due("one above brings it down", x.brings(0, NONE, 0, 2), 1);
         due("its own bank", x.brings(0, NONE, 0, 0), 1);
         due("its own bank, of 1", x.brings(0, NONE, 0, 1), 2);
+        due("its own bank, of a POND alone", with("pond 1 0 0;").brings(0, NONE, 0, 0), 1);
         PondStair y = with("pond 9 1 0;pond 9 4 0;pond 9 6 0;down 0 2;down 1 2;");
         due("of two single ones the least", y.brings(0, NONE, 0, 2), 2);
         PondStair both = with("pond 9 2 0;pond 9 2 0;pond 9 6 0;down 0 2;down 1 2;");

@@ -280,6 +280,11 @@ final class EdgesOfTexts extends Edges {
         fails(sort, word + " a;", 1, word.length() + 1);
         fails(sort, word + "a 0;", 1, before.length());
         fails(sort, word.substring(0, word.length() - 1) + " 0;", 1, before.length());
+        for (int k = before.length(); k < word.length(); k++) {
+            StringBuilder other = new StringBuilder(text).append(';');
+            other.setCharAt(k, 'x');
+            fails(sort, other.toString(), 1, before.length());
+        }
     }
 
     private void pondsOfLines() {
@@ -523,6 +528,7 @@ final class EdgesOfTexts extends Edges {
         Tape.put(x, "x");
         due("none of them", x.end(0), 0);
         due("an empty text", x.text(0, 0), 0);
+        cutTexts();
         sentence("Promise 3", "NONE if it has not so many, or n is below 0.");
         due("1 of an empty one", new PondStair().end(1), NONE);
         for (int length : new int[] {0, 1, 19, 20, 21, 599, 600}) {
@@ -539,6 +545,21 @@ final class EdgesOfTexts extends Edges {
         y.end(-1);
         due("what is refused leaves the tape", y.text(1, NONE), 0);
         due("all of it", y.work(0, 0, 1), 7);
+    }
+
+    /** What was behind the end is no part of the text: of no word, no NUMBER, no row of blanks. */
+    private void cutTexts() {
+        String text = "pond 12 1 1 ;  mend 12;";
+        int[] place = {NONE, 1, 2, 3, 4, 5, 6, 7, 8, 9, 10, 11, 12, NONE, NONE, NONE, 15, 15, 15, 19, 20, 21, 22, NONE};
+        for (int n = 0; n <= text.length(); n++) {
+            PondStair x = new PondStair();
+            Tape.put(x, text);
+            due("end(" + n + ")", x.end(n), n);
+            due("what is left of it", x.text(0, NONE), place[n] == NONE ? 0 : NONE);
+            // A word that is cut is another word.
+            int want = n > 0 && n < 4 ? 0 : place[n];
+            due("its place", x.fault(1), want);
+        }
     }
 
     private void text() {
@@ -562,6 +583,7 @@ final class EdgesOfTexts extends Edges {
             due("what was there is gone", x.hill(at, 2), 1);
             due("the tape is empty", x.end(1), NONE);
         }
+        nothingStays();
         for (int at = 0; at < 3; at++) {
             Tape.put(x, "low " + at + " 3;");
             due("in the place of PLAN " + at, x.text(1, at), at);
@@ -581,6 +603,34 @@ final class EdgesOfTexts extends Edges {
                 same("HILLS and PLANS are as they were", Portrait.ofHillsAndPlans(y), Portrait.ofHillsAndPlans(withRoom()));
             }
         }
+    }
+
+    /** A text begins anew: nothing stays of one that was taken ahead of it, or was a FAULT. */
+    private void nothingStays() {
+        String all = THREE + "down 0 1;aside 0 2 7;bears 0 5;goes 0 6;harm 0 9;owner 0 3;rice 0 7;way 0 5;gate 0 3;sign 0 9 8;"
+            + "rain 3 40;rain 4 60;mend 9;wide 8;round 7;";
+        int[] bare = {2, 1, 3, 0, 0, 0, 0, 0, NONE, NONE, 0, 0, NONE, 0, 0, 0};
+        int[] days = {1, 1, 1, 1, 1};
+        for (String before : new String[] {all, all + "x", all + "mend 100;"}) {
+            PondStair x = new PondStair();
+            Tape.hill(x, before);
+            Tape.put(x, "pond 2 1 3;");
+            int number = x.text(0, NONE);
+            for (int what = 0; what < bare.length; what++) {
+                due("of a POND behind another text, " + what, x.pond(number, NONE, 0, what), bare[what]);
+            }
+            for (int what = 0; what < days.length; what++) {
+                due("of a HILL behind another text, " + what, x.hill(number, what), days[what]);
+            }
+            due("STEPS behind another text", x.hill(number, 10), 0);
+            due("no RAIN 1 behind another text", x.hill(number, 11), NONE);
+        }
+        PondStair x = new PondStair();
+        Tape.plan(x, "low 1 2;out 3;out 9;");
+        due("a PLAN behind another text", Tape.plan(x, "out 4;"), 0);
+        due("its WORK", x.work(0, 0, 0), 4);
+        due("its WORK's number", x.work(0, 0, 2), NONE);
+        due("no WORK 1", x.work(0, 1, 0), REFUSED);
     }
 
     private PondStair withRoom() {
