@@ -8,11 +8,16 @@ import java.util.Random;
 public final class OracleTest {
     private static final int RUNS = 5000;
     private static final int CALLS = 60;
+    /** Runs that use an object up, so that much has been told, struck and called back before it is asked. */
+    private static final int LONG_RUNS = 400;
+    private static final int MOST_CALLS = 512;
+    private static final List<String> TELLING = List.of("image", "again", "again", "text", "end", "feed", "fault", "count");
 
     private final Random random;
     private final Check check;
     private final PondStair x = new PondStair();
     private final Oracle oracle = new Oracle();
+    private int asked = 0;
 
     private OracleTest(int seed, Check check) {
         this.random = new Random(seed);
@@ -24,10 +29,13 @@ public final class OracleTest {
         for (int seed = 0; seed < RUNS && check.wrong() == 0; seed++) {
             new OracleTest(seed, check).run(seed);
         }
+        for (int seed = RUNS; seed < RUNS + LONG_RUNS && check.wrong() == 0; seed++) {
+            new OracleTest(seed, check).runLong(seed);
+        }
         check.close();
     }
 
-    private void run(int seed) throws Exception {
+    private static List<Method> methods() {
         List<Method> methods = new ArrayList<>();
         for (Method m : PondStair.class.getDeclaredMethods()) {
             if (java.lang.reflect.Modifier.isPublic(m.getModifiers())) {
@@ -35,6 +43,30 @@ public final class OracleTest {
             }
         }
         methods.sort((a, b) -> a.getName().compareTo(b.getName()));
+        return methods;
+    }
+
+    /** A text takes 36 calls at most: 30 feeds, two ends, text and fault. */
+    private void runLong(int seed) throws Exception {
+        List<Method> methods = methods();
+        text(seed, 0, true);
+        while (asked < MOST_CALLS - 36) {
+            if (random.nextInt(30) == 0) {
+                text(seed, random.nextInt(2), random.nextInt(3) != 0);
+            }
+            String telling = random.nextInt(5) == 0 ? TELLING.get(random.nextInt(TELLING.size())) : "";
+            for (Method m : methods) {
+                if (m.getName().equals(telling)) {
+                    ask(seed, m, arguments(m));
+                }
+            }
+            Method m = methods.get(random.nextInt(methods.size()));
+            ask(seed, m, arguments(m));
+        }
+    }
+
+    private void run(int seed) throws Exception {
+        List<Method> methods = methods();
         for (int call = 0; call < CALLS; call++) {
             if (call < 5 || random.nextInt(25) == 0) {
                 int sort = call == 0 ? 0 : random.nextInt(2);
@@ -47,6 +79,7 @@ public final class OracleTest {
 
     private void ask(int seed, Method m, Object[] arguments) throws Exception {
         Method o = Oracle.class.getDeclaredMethod(m.getName(), m.getParameterTypes());
+        asked++;
         Object got = m.invoke(x, arguments);
         Object want = o.invoke(oracle, arguments);
         String call = "seed " + seed + ": " + m.getName() + Arrays.toString(arguments);
@@ -65,17 +98,25 @@ public final class OracleTest {
         if (text.length() > 600) {
             text = text.substring(0, 600);
         }
-        int from = random.nextInt(8) == 0 ? 0 : -1;
+        int at = place(sort);
         Tape.put(x, text);
+        asked += 5 + (text.length() + 19) / 20;
         oracle.end(0);
         for (int k = 0; k < text.length(); k += 20) {
             int[] w = Tape.words(text, k);
             oracle.feed(w[0], w[1], w[2], w[3], w[4]);
         }
         oracle.end(text.length());
-        check.same("seed " + seed + ": text of <" + text + ">", x.text(sort, from), oracle.text(sort, from));
+        check.same("seed " + seed + ": text of <" + text + ">", x.text(sort, at), oracle.text(sort, at));
         check.same("seed " + seed + ": its fault <" + text + ">", x.fault(0), oracle.fault(0));
         check.same("seed " + seed + ": its place <" + text + ">", x.fault(1), oracle.fault(1));
+    }
+
+    /** In the place of one more often where there can be no further one. */
+    private int place(int sort) {
+        int there = oracle.count(sort);
+        boolean full = there == (sort == 0 ? 2 : 3);
+        return random.nextInt(full ? 2 : 8) == 0 ? random.nextInt(there + 1) : -1;
     }
 
     private int upTo(int most) {
