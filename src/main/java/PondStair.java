@@ -57,8 +57,8 @@ public final class PondStair {
     private final Site site = new Site();
     private final Works nothing = new Works();
     private final Storm flow = new Storm();
-    private final Odds odds = new Odds();
-    private final Choice choice = new Choice(odds);
+    private final Choice choice = new Choice();
+    private final Odds odds = choice.odds;
     private final Hill trial = new Hill();
 
     public PondStair() {
@@ -1152,7 +1152,7 @@ public final class PondStair {
 
     /** What is best to do on a HILL. */
     private static final class Choice {
-        private final Odds odds;
+        private final Odds odds = new Odds();
         private final Hill trial = new Hill();
         private int first = NONE;
         private int second = NONE;
@@ -1163,10 +1163,6 @@ public final class PondStair {
         private final int[] tried = new int[MOST_FILLED];
         /** MEAN by which of the PONDS to fill (bits by their place in toFill) are full. */
         private final long[] filledMean = new long[1 << MOST_FILLED];
-
-        Choice(Odds odds) {
-            this.odds = odds;
-        }
 
         private long meanMended(int set) {
             odds.weigh(set, 0);

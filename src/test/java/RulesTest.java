@@ -3,6 +3,7 @@ import com.sun.source.tree.BinaryTree;
 import com.sun.source.tree.CatchTree;
 import com.sun.source.tree.ClassTree;
 import com.sun.source.tree.CompilationUnitTree;
+import com.sun.source.tree.ExpressionTree;
 import com.sun.source.tree.ImportTree;
 import com.sun.source.tree.LambdaExpressionTree;
 import com.sun.source.tree.MemberReferenceTree;
@@ -15,6 +16,7 @@ import com.sun.source.tree.Tree;
 import com.sun.source.tree.TryTree;
 import com.sun.source.tree.VariableTree;
 import com.sun.source.util.JavacTask;
+import com.sun.source.util.TreePath;
 import com.sun.source.util.TreePathScanner;
 import com.sun.source.util.Trees;
 import java.lang.reflect.Constructor;
@@ -33,6 +35,7 @@ import java.util.regex.Pattern;
 import javax.lang.model.element.Element;
 import javax.lang.model.element.ElementKind;
 import javax.lang.model.element.ExecutableElement;
+import javax.lang.model.element.VariableElement;
 import javax.lang.model.type.TypeMirror;
 import javax.tools.JavaCompiler;
 import javax.tools.StandardJavaFileManager;
@@ -187,7 +190,7 @@ public final class RulesTest {
 
         @Override
         public Void visitMethodInvocation(MethodInvocationTree node, Void v) {
-            Element e = trees.getElement(new com.sun.source.util.TreePath(getCurrentPath(), node.getMethodSelect()));
+            Element e = trees.getElement(new TreePath(getCurrentPath(), node.getMethodSelect()));
             String owner = e.getEnclosingElement().toString();
             if (owner.startsWith("PondStair")) {
                 calls.get(method).add(name(e));
@@ -202,7 +205,24 @@ public final class RulesTest {
             if (node.getClassBody() != null) {
                 refuse("an anonymous class", node);
             }
+            for (ExpressionTree argument : isMaking() ? node.getArguments() : List.<ExpressionTree>of()) {
+                Element e = trees.getElement(new TreePath(getCurrentPath(), argument));
+                if (e != null && e.getKind() == ElementKind.FIELD && ((VariableElement) e).getConstantValue() == null
+                        || argument.toString().equals("this")) {
+                    refuse("a part of an object that is not made yet", node);
+                }
+            }
             return super.visitNewClass(node, v);
+        }
+
+        /** In a constructor, or where a field gets its first value. */
+        private boolean isMaking() {
+            for (TreePath p = getCurrentPath(); p != null; p = p.getParentPath()) {
+                if (p.getLeaf() instanceof MethodTree m) {
+                    return m.getName().contentEquals("<init>");
+                }
+            }
+            return true;
         }
 
         @Override

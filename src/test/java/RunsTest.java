@@ -3,6 +3,7 @@ import java.util.Collections;
 import java.util.List;
 import java.util.Random;
 import java.util.TreeSet;
+import java.util.function.Consumer;
 
 /**
  * Each promise in a run of calls on one object: what a call answers, and what it leaves behind, as later calls show
@@ -23,6 +24,7 @@ public final class RunsTest {
             amidTelling(row);
         }
         allOnOne();
+        lastCalls();
         newObjects();
         feedToTheBrim();
         feedInBytes();
@@ -33,6 +35,7 @@ public final class RunsTest {
         counts();
         imagesOfAll();
         imagesApart();
+        nothingElse();
         for (int promise = 1; promise <= 44; promise++) {
             CHECK.isTrue("promise " + promise + " has a run", RUN.contains(promise));
         }
@@ -146,6 +149,22 @@ public final class RunsTest {
                     }
                 }
             }
+        }
+    }
+
+    /** The 512th call answers as the first one does, whichever it is. */
+    private static void lastCalls() {
+        for (Row row : Rows.all()) {
+            PondStair x = new PondStair();
+            tell(x, 0, NONE, Rows.TOLD);
+            tell(x, 1, NONE, Rows.PLAN);
+            int telling = 6 + (Rows.TOLD.length() + 19) / 20 + (Rows.PLAN.length() + 19) / 20;
+            for (int calls = telling; calls < 509; calls++) {
+                due("MEAN behind " + calls + " calls", x.mean(0, 0, NONE), 242000);
+            }
+            answers(row, x, "509 calls", 0, NONE, row.told());
+            answers(row, x, "510 calls", 0, 0, row.planned());
+            refuses(row, x, "511 calls", 2, NONE);
         }
     }
 
@@ -413,5 +432,65 @@ public final class RunsTest {
             due("again " + k, x.again(k), true);
             due("its WORK now", x.work(0, 0, 1), want[k]);
         }
+    }
+
+    /** What calls by which an object is seen and told leave behind: what they are for, and nothing else. */
+    private static void nothingElse() {
+        List<Consumer<PondStair>> calls = List.of(
+            x -> due("FAULT", x.fault(0), 2),
+            x -> due("its place", x.fault(1), 7),
+            x -> due("another FAULT", x.fault(2), NONE),
+            x -> due("MEND", x.hill(0, 2), 3),
+            x -> due("another HILL", x.hill(1, 2), NONE),
+            x -> due("DOWN", x.pond(0, 0, 0, 8), 1),
+            x -> due("another POND", x.pond(0, 0, 2, 8), REFUSED),
+            x -> due("WORK", x.work(0, 1, 2), 2),
+            x -> due("another WORK", x.work(0, 3, 0), REFUSED),
+            x -> due("PLANS", x.count(1), 1),
+            x -> due("another count", x.count(2), REFUSED),
+            x -> due("the tape's end where it is", x.end(586), 586),
+            x -> due("a byte too many", x.end(587), NONE),
+            x -> due("twenty bytes too many", x.feed(1, 2, 3, 4, 5), NONE),
+            x -> due("image 0", x.image(0), true),
+            x -> due("image 1", x.image(1), true),
+            x -> due("another image", x.image(3), false),
+            x -> due("again 1", x.again(1), true),
+            x -> due("again 2", x.again(2), false),
+            x -> due("another again", x.again(-1), false));
+        for (int k = 0; k < calls.size(); k++) {
+            PondStair x = new PondStair();
+            tell(x, 0, NONE, Rows.TOLD);
+            tell(x, 1, NONE, Rows.PLAN);
+            tell(x, 0, 0, "pond 1 2 3;");
+            Tape.put(x, "out 6;" + " ".repeat(580));
+            x.image(1);
+            for (int twice = 0; twice < 2; twice++) {
+                calls.get(k).accept(x);
+                isAsTold(x, "call " + k);
+            }
+            x.end(0);
+            x.text(0, NONE);
+            due("PLAN 0", tell(x, 1, 0, "low 0 1;"), 0);
+            calls.get(9).accept(x);
+            due("again 1 behind call " + k, x.again(1), true);
+            isAsTold(x, "again behind call " + k);
+            due("the tape behind call " + k, x.text(1, NONE), 1);
+            due("its WORK behind call " + k, x.work(1, 0, 1), 6);
+        }
+    }
+
+    /** Looks with calls that are due to change nothing, each time with all of them. */
+    private static void isAsTold(PondStair x, String behind) {
+        due("FAULT behind " + behind, x.fault(0), 2);
+        due("its place behind " + behind, x.fault(1), 7);
+        due("HILLS behind " + behind, x.count(0), 1);
+        due("PLANS behind " + behind, x.count(1), 1);
+        due("MEAN behind " + behind, x.mean(0, NONE, NONE), 830000);
+        due("MEAN with the PLAN behind " + behind, x.mean(0, 0, NONE), 242000);
+        due("DAYS behind " + behind, x.plan(0, 0, 1), 16);
+        due("the WORK behind " + behind, x.work(0, 0, 2), 4);
+        due("a byte too many behind " + behind, x.end(587), NONE);
+        due("the tape's end behind " + behind, x.end(586), 586);
+        due("images behind " + behind, x.again(2), false);
     }
 }
